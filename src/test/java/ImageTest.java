@@ -6,6 +6,7 @@ final class ImageTest {
     public static void main(String[] args) {
         bounds();
         kept();
+        longLog();
         notKept();
         counts();
         C.end();
@@ -56,6 +57,35 @@ final class ImageTest {
         C.due("another image", x.image(), 2);
         x.night();
         C.due("back to the other", x.back(), 2);
+    }
+
+    /** So many acts behind the image that each row of the log has been written over. */
+    private static void longLog() {
+        SnowBooks x = Check.hall("sw6h5;pd9;r");
+        for (int i = 0; i < 70; i++) {
+            x.hare(i % 29 + 1);
+        }
+        x.image();
+        for (int i = 0; i < 120; i++) {
+            x.night();
+        }
+        C.due("back", x.back(), 0);
+        C.due("log", x.count(11), 60);
+        for (int i = 0; i < 60; i++) {
+            C.due("log(" + i + ", 0) of the image", x.log(i, 0), 5);
+            C.due("log(" + i + ", 2) of the image", x.log(i, 2), (69 - i) % 29 + 1);
+        }
+        C.due("log(60, 0)", x.log(60, 0), SnowBooks.HIDDEN);
+        for (int i = 0; i < 50; i++) {
+            x.night();
+        }
+        for (int i = 0; i < 40; i++) {
+            x.undo();
+        }
+        C.due("log behind 10 acts more", x.count(11), 60);
+        C.due("its tenth", x.log(9, 0), 4);
+        C.due("its eleventh", x.log(10, 2), 69 % 29 + 1);
+        C.due("its last", x.log(59, 2), 20 % 29 + 1);
     }
 
     private static void notKept() {

@@ -20,6 +20,8 @@ final class QuestionsTest {
         learnt();
         quiet();
         far();
+        fullHall();
+        fullHallAsked();
         C.end();
     }
 
@@ -359,5 +361,73 @@ final class QuestionsTest {
         }
         C.due("one alone", x.far(), 0);
         C.due("no hall", new SnowBooks().far(), NONE);
+    }
+
+    /** Twelve pages (said: their number, 10 and 11 as 0 and 1) in cells 0 to 11, six readers who melt nothing. */
+    private static SnowBooks full() {
+        StringBuilder text = new StringBuilder("sw6h5f0a99");
+        for (int p = 0; p < 12; p++) {
+            text.append(";pc").append(p).append('t').append(p % 10).append('b').append(p / 6);
+        }
+        for (int r = 0; r < 6; r++) {
+            text.append(";rb0v9n").append(r % 2);
+        }
+        return Check.hall(text.toString());
+    }
+
+    private static void fullHall() {
+        SnowBooks x = full();
+        C.due("pages", x.count(0), 12);
+        C.due("readers", x.count(1), 6);
+        C.due("six pages to six readers", x.share(1, 0), 6);
+        C.due("nothing lost by it", x.share(1, 1), 0);
+        C.due("all there", x.left(0), 4095);
+        C.due("the last page lasts", x.last(11), NONE);
+        C.due("far", x.far(), 6);
+        for (int r = 0; r < 6; r++) {
+            C.due("read(" + r + ", .)", x.read(r, r), r);
+        }
+        C.due("needy", x.needy(), 63);
+        C.due("who", x.who(0), 63);
+        x.night();
+        for (int r = 0; r < 6; r++) {
+            C.due("read(" + r + ", . + 6)", x.read(r, r + 6), (r + 6) % 10);
+        }
+        C.due("who of the other", x.who(1), 63);
+        C.due("known", x.known(), 4095);
+        C.due("sure", x.sure(), 0);
+        x.night();
+        for (int r = 0; r < 5; r++) {
+            C.due("go", x.go(r, 11) >= 0, true);
+        }
+        x.night();
+        for (int r = 0; r < 5; r++) {
+            C.due("tell", x.tell(r, 5), 2);
+        }
+        C.due("one knows all", x.who(1), 32);
+        C.due("needy then", x.needy(), 31);
+        C.due("sure then", x.sure(), 0xfff & ~(1 << 5 | 1 << 11));
+        C.due("learnt", x.learnt(5), 6);
+        C.due("its bits", x.reader(5, 5), 4095);
+        C.due("likely", x.likely(11, 0), 1);
+    }
+
+    private static void fullHallAsked() {
+        SnowBooks x = full();
+        C.due("a place: farthest from all", x.placeFor(11, 0), 29);
+        C.due("its steps", x.placeFor(11, 1), 4);
+        C.due("quiet", x.quiet(5, 1), 0);
+        C.due("split", x.split(), 0);
+        C.due("breathed by all", x.breathed(11, 11, 0, 63), 63);
+        Check.law(x, "y:1");
+        C.due("the last cell's reader", x.loss(5, 11), 3);
+        C.due("six readers: 3 at the row's ends, 4 else", x.share(1, 1), 2 * 3 + 4 * 4);
+        C.due("breathed by six", x.breathed(11, 11, 6, 0), 63);
+        C.due("hare at the last", x.hare(11), 3);
+        x.hare(11);
+        C.due("one is lost", x.count(9), 1);
+        C.due("five are left of it, six there were", x.order(0, 1, 0) != HIDDEN, true);
+        C.due("centuries", x.centuries(60, 5), 60);
+        C.due("the log", x.count(11), 60);
     }
 }

@@ -48,6 +48,14 @@ final class TapeTest {
         C.due("feed beyond 240", x.feed(0, 0, 1, 0, 0), NONE);
         C.due("feed of nothing at 240", x.feed(0, 0, 0, 0, 0), 240);
         C.due("fault of 240 blanks", x.fault(1), 240);
+        for (int i = 0; i < 5; i++) {
+            int[] n = new int[5];
+            n[i] = 0x70000070;
+            x.end(239);
+            C.due("two bytes of number " + i + " at 239", x.feed(n[0], n[1], n[2], n[3], n[4]), NONE);
+            x.end(238);
+            C.due("two bytes of number " + i + " at 238", x.feed(n[0], n[1], n[2], n[3], n[4]), 240);
+        }
         x.end(239);
         C.due("feed of two at 239", x.feed(0x0100, 0, 0, 0, 1), NONE);
         C.due("bytes behind what was refused", x.count(4), 239);
