@@ -1,8 +1,13 @@
-import java.util.NoSuchElementException;
+import java.util.ArrayList;
+import java.util.List;
 
-/** Compares answers with those that are due, and feeds texts. */
+/** Compares answers with those that are due, sentence by sentence of the document. */
 final class Check {
     private final String title;
+    private final List<String> unasked = new ArrayList<>();
+    private String sentence = "";
+    private int sentences;
+    private int sinceSentence = 1;
     private int wrong;
     private int asked;
 
@@ -10,11 +15,29 @@ final class Check {
         this.title = title;
     }
 
+    /**
+     * The checks from here to the next sentence fail if this one is broken. It stands in the document word by word:
+     * in that promise, or in the terms that the promise is told in (DocTest looks it up).
+     */
+    void promise(int number, String words) {
+        endSentence();
+        sentence = "Promise " + number + ": " + words;
+        sentences++;
+        sinceSentence = 0;
+    }
+
+    private void endSentence() {
+        if (sinceSentence == 0) {
+            unasked.add(sentence);
+        }
+    }
+
     void due(String call, long got, long want) {
         asked++;
+        sinceSentence++;
         if (got != want) {
             wrong++;
-            System.out.println(title + ": " + call + " answered " + got + ", due is " + want);
+            System.out.println(title + ", " + sentence + "\n    " + call + " answered " + got + ", due is " + want);
         }
     }
 
@@ -22,67 +45,65 @@ final class Check {
         due(call, got ? 1 : 0, want ? 1 : 0);
     }
 
-    /** reader(r, what) throws NoSuchElementException. */
-    void dueThrow(SnowBooks x, int reader, int what) {
-        boolean thrown = false;
-        try {
-            x.reader(reader, what);
-        } catch (NoSuchElementException e) {
-            thrown = true;
+    /** The calls are made one by one, and each answers as due: "night()", 1, "count(6)", 1, .. */
+    void due(Run run, Object... callsAndAnswers) {
+        for (int i = 0; i < callsAndAnswers.length; i += 2) {
+            String call = (String) callsAndAnswers[i];
+            String told = run + " " + call;
+            due(told, run.ask(call), ((Number) callsAndAnswers[i + 1]).longValue());
         }
-        due("reader(" + reader + ", " + what + ") throws", thrown, true);
     }
 
-    /** The text alone is on the tape. */
-    static void feed(SnowBooks x, String text) {
-        x.end(0);
-        for (int from = 0; from < text.length(); from += 20) {
-            int[] numbers = new int[5];
-            for (int i = 0; i < 20 && from + i < text.length(); i++) {
-                numbers[i / 4] |= (text.charAt(from + i) & 255) << 24 - i % 4 * 8;
+    /** The same, and no one of the calls changes anything: each on the run as it is. */
+    void still(Run run, Object... callsAndAnswers) {
+        String ahead = run.again().seen();
+        for (int i = 0; i < callsAndAnswers.length; i += 2) {
+            String call = (String) callsAndAnswers[i];
+            Run other = run.again();
+            due(run + " " + call, other.ask(call), ((Number) callsAndAnswers[i + 1]).longValue());
+            String behind = other.seen();
+            due(run + " is the same behind " + call + changed(ahead, behind), behind.equals(ahead), true);
+        }
+    }
+
+    private static String changed(String ahead, String behind) {
+        String[] were = ahead.split("\n");
+        String[] are = behind.split("\n");
+        for (int i = 0; i < were.length && i < are.length; i++) {
+            if (!were[i].equals(are[i])) {
+                return " (" + were[i] + " / " + are[i] + ")";
             }
-            x.feed(numbers[0], numbers[1], numbers[2], numbers[3], numbers[4]);
         }
+        return "";
     }
 
-    static int text(SnowBooks x, int sort, String text) {
-        feed(x, text);
-        return x.text(sort);
-    }
-
-    static SnowBooks hall(String text) {
-        SnowBooks x = new SnowBooks();
-        if (text(x, 0, text) < 0) {
-            throw new IllegalStateException("no hall: " + text);
-        }
-        return x;
-    }
-
-    /** The law is read and holds. */
-    static void law(SnowBooks x, String text) {
-        int law = text(x, 1, text);
-        if (law < 0 || !x.law(law)) {
-            throw new IllegalStateException("no law: " + text);
-        }
-    }
-
+    /** The text's FAULT; nothing is taken from the TAPE if there is one, all of it if not. */
     void fault(int sort, String text, int want) {
-        SnowBooks x = new SnowBooks();
-        feed(x, text);
-        due("fault(" + sort + ") of \"" + text + "\"", x.fault(sort), want);
-        due("bytes behind fault of \"" + text + "\"", x.count(4), text.length());
-        int answer = want == SnowBooks.NONE ? x.count(sort == 1 ? 2 : 3) : SnowBooks.NONE;
-        if (sort != 0) {
-            due("text(" + sort + ") of \"" + text + "\"", x.text(sort), answer);
-        } else if (want != SnowBooks.NONE) {
-            due("text(0) of \"" + text + "\"", x.text(0), SnowBooks.NONE);
+        Run run = Run.of("tape " + text);
+        int number = want == SnowBooks.NONE ? 0 : SnowBooks.NONE;
+        due(run, "fault(" + sort + ")", want, "count(4)", text.length());
+        if (sort != 0 || number != 0) {
+            due(run, "text(" + sort + ")", number);
+        } else {
+            due(run + " is a HALL", run.ask("text(0)") > 0, true);
         }
-        due("bytes behind text of \"" + text + "\"", x.count(4), want == SnowBooks.NONE && sort != 0 ? 0 : text.length());
+        due(run, "count(4)", number == 0 ? 0 : text.length());
+    }
+
+    /** None of the texts has a FAULT. */
+    void whole(int sort, String... texts) {
+        for (String text : texts) {
+            fault(sort, text, SnowBooks.NONE);
+        }
     }
 
     void end() {
-        System.out.println(title + ": " + asked + " asked, " + wrong + " wrong");
-        if (wrong != 0) {
+        endSentence();
+        for (String words : unasked) {
+            System.out.println(title + ", " + words + "\n    nothing is asked of it");
+        }
+        System.out.println(title + ": " + sentences + " sentences, " + asked + " asked, " + wrong + " wrong");
+        if (wrong != 0 || !unasked.isEmpty()) {
             System.exit(1);
         }
     }
