@@ -714,7 +714,11 @@ public final class SnowBooks {
         }
 
         boolean expect(int sign) {
-            return goOver(sign) || wrongHere();
+            if (next() != sign) {
+                return wrongHere();
+            }
+            at++;
+            return true;
         }
 
         boolean wrongHere() {

@@ -211,6 +211,11 @@ final class HallTest {
         worthIs("y:3>2?3;y:4", 3);
         worthIs("y:2=2?3;y:4", 3);
         worthIs("y:!1=1?2;y:3", 3);
+        worthIs("y:!1<2?2;y:3", 3);
+        worthIs("y:!2>1?2;y:3", 3);
+        worthIs("y:!2<1?2;y:3", 2);
+        worthIs("y:!1>2?2;y:3", 2);
+        worthIs("y:1<2&2>1&1=1?2;y:3", 2);
         worthIs("y:!!1=1?2;y:3", 2);
         worthIs("y:!!!!!1=1?2;y:3", 3);
         worthIs("y:1=1|1=2?2;y:3", 2);

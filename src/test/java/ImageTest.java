@@ -72,6 +72,8 @@ final class ImageTest {
         Run x = Run.of("hall pd9;r", "slips(5)", "law y:1", "plan n", "image()", "slips(9)", "law y:2", "plan r00", "night()", "back()");
         C.due(x, "count(8)", 9, "count(2)", 2, "count(3)", 2, "step(1, 0, 0)", 0, "law(0)", 1, "melt(0, 0, 0)", 1, "law(1)", 1,
                 "melt(0, 0, 0)", 2);
+        // Which LAW holds is of the LAWS; the TAPE is of no HALL.
+        C.due(Run.of("hall pd9;r", "law y:1", "law y:2", "image()", "law(0)", "tape abc", "back()"), "count(5)", 0, "count(4)", 3);
     }
 
     private static void back() {

@@ -70,6 +70,8 @@ final class MemoryTest {
 
     private static void first() {
         C.promise(31, "FIRST to be RECUT: the PAGE that is there with the least DEPTH that somebody KNOWS (of several the lowest).");
+        C.still(Run.of("hall pd3;pd9;rb0", "read(0, 0)"), "first()", 0);
+        C.still(Run.of("hall pd1;pd1;rb0;rb0", "read(0, 1)", "read(1, 0)"), "first()", 0);
         Run x = Run.of("hall pd9;pd4;pd4;pd1;pd2;rb0;rb0;rb0", "read(0, 2)");
         C.still(x, "first()", 2);
         C.due(x, "read(1, 1)", 0, "first()", 1, "read(2, 3)", 0, "first()", 3, "night()", 1, "recut(2, 3)", 0, "first()", 1,
@@ -136,6 +138,10 @@ final class MemoryTest {
         C.due(slipped(5, 1), "split()", 1);
         C.due(lost(slipped(9, 1)), "split()", 1);
         C.due(slipped(5, 1), "read(1, 0)", 6, "split()", 1, "read(2, 0)", 6, "split()", 0);
+        // READERS 0 and 2 know other things, READER 1 nothing.
+        C.due(Run.of("hall sf0a99;pt5d9;rb0v0;rb0v1;rb0v0", "read(0, 0)", "read(2, 0)", "night()", "hare(0)", "hare(0)", "hare(0)",
+                "go(1, 1)", "tell(2, 0)", "slips(99)", "centuries(1, 2)"), "memory(0, 0)", 6, "memory(1, 0)", NONE, "memory(2, 0)", 5,
+                "split()", 1, "sure()", 0);
         // The last READER alone knows other things.
         C.due(Run.of("hall sf0a99;pt5d9;rb0v0;rb0v0;rb0v0", "read(0, 0)", "tell(0, 1)", "night()", "tell(0, 1)", "tell(1, 2)",
                 "hare(0)", "hare(0)", "hare(0)", "slips(99)", "centuries(1, 2)"), "memory(2, 0)", 6, "split()", 1);
@@ -149,6 +155,7 @@ final class MemoryTest {
                 + "if it is there, together");
         C.still(Run.of("hall pt9d3;r"), "likely(0, 0)", 9, "likely(0, 1)", 0);
         C.still(Run.of("hall pt0d3;r"), "likely(0, 0)", 0, "likely(0, 1)", 0);
+        C.still(Run.of("hall pt7d1;r"), "likely(0, 0)", 7, "likely(0, 1)", 0);
         C.due(Run.of("hall pt7d9;rb0;rb0", "read(0, 0)", "read(1, 0)"), "likely(0, 0)", 7, "likely(0, 1)", 0);
         // KNOWN as 7, 5 and 5; it SAYS 7: 5 to 7 are 4 apart together. LOST: 5 is 2 apart.
         C.due(slipped(5, 2), "likely(0, 0)", 5, "likely(0, 1)", 4);

@@ -28,6 +28,8 @@ final class SearchTest {
         C.due(Run.of("hall sw6h5;pc0;pc7;r"), "placeFor(1, 0)", 29, "placeFor(1, 1)", 9, "placeFor(0, 0)", 29, "placeFor(0, 1)", 7);
         C.due(Run.of("hall sw3h3;pc4;p;r"), "placeFor(1, 0)", 0, "placeFor(1, 1)", 2);
         C.due(Run.of("hall sw2h1;p;pc1;p;r"), "placeFor(2, 0)", 0, "placeFor(2, 1)", 0);
+        C.due(Run.of("hall sw2h1;p;p;r"), "placeFor(1, 0)", 1, "placeFor(1, 1)", 1);
+        C.due(Run.of("hall sw3h1;pc2d1;p;r"), "placeFor(1, 0)", 0, "placeFor(1, 1)", 2);
         C.due(Run.of("hall sw1h1;p;p;r"), "placeFor(0, 0)", 0, "placeFor(0, 1)", 0);
         C.due(Run.of("hall p;r"), "placeFor(0, 0)", 0, "placeFor(0, 1)", NONE);
     }

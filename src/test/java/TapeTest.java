@@ -69,6 +69,10 @@ final class TapeTest {
                 "feed(0, 0, 0, 0, 0)", 3, "text(0)", 1);
 
         C.promise(2, "NONE: more than 240.");
+        C.whole(0, "p;r" + " ".repeat(237), "s;r;" + many("pc00", 12) + ";" + many("rc00", 5) + " ".repeat(152));
+        C.whole(1, "y:" + "b+".repeat(118) + "10", "y:b=0" + "&b=0".repeat(58) + "?b ", "y:b" + ";y:b".repeat(59) + " ");
+        C.due(Run.of("hall pd9;rb1", "law y:" + "b+".repeat(118) + "10"), "melt(0, 0, 0)", 9);
+        C.due(Run.of("hall pd9;rb1", "law y:" + "b-".repeat(118) + "b"), "melt(0, 0, 0)", 0);
         Run full = Run.of();
         for (int i = 1; i <= 12; i++) {
             String blanks = String.join(", ", FOUR_BLANKS, FOUR_BLANKS, FOUR_BLANKS, FOUR_BLANKS, FOUR_BLANKS);
@@ -160,6 +164,8 @@ final class TapeTest {
         C.due(Run.of("hall pd09c7;rc07b0"), "page(0, 1)", 9, "page(0, 0)", 7, "reader(0, 0)", 7, "reader(0, 1)", 0);
         C.due(Run.of("hall pc19t00;r;sc10"), "page(0, 0)", 19, "page(0, 3)", 0, "hall(2)", 10);
         C.fault(0, "pc;r", 2);
+        C.fault(0, "pc:;r", 2);
+        C.fault(0, "pc/;r", 2);
         C.fault(0, "pcd1;r", 2);
         C.fault(0, "pc-1;r", 2);
         C.fault(0, "pc005;r", 4);
@@ -264,6 +270,10 @@ final class TapeTest {
         C.fault(2, "t00", 0);
         C.fault(2, "r", 1);
         C.fault(2, "rx", 1);
+        C.fault(2, "r:0", 1);
+        C.fault(2, "r/0", 1);
+        C.fault(2, "r0:", 2);
+        C.fault(2, "r0/", 2);
         C.fault(2, "r0", 2);
         C.fault(2, "r0;", 2);
         C.fault(2, "c0", 2);
@@ -449,6 +459,7 @@ final class TapeTest {
         C.promise(5, "(DAY 0, nobody KNOWS anything");
         C.due(Run.of("hall p;p;r;r"), "count(6)", 0, "known()", 0, "reader(0, 5)", 0, "reader(1, 5)", 0, "memory(0, 0)", NONE);
         Run old = Run.of("hall p;p;r;r", "read(0, 0)", "read(1, 1)", "night()", "tell(0, 1)", "hall p;p;r;r");
+        C.due(old.again(), "reader(0, 4)", 0, "reader(1, 4)", 0, "go(0, 1)", 1);
         C.due(old, "count(6)", 0, "known()", 0, "reader(0, 5)", 0, "reader(1, 5)", 0, "memory(0, 0)", NONE,
                 "memory(1, 0)", NONE);
 
@@ -514,6 +525,15 @@ final class TapeTest {
         Run plans = Run.of("hall p;r", "plan n", "plan r00", "plan n", "plan g01", "tape n;n");
         C.still(plans, "text(2)", NONE, "fault(2)", NONE);
         C.due(plans, "text(2)", NONE, "count(4)", 3, "step(3, 0, 0)", 2, "step(3, 1, 0)", HIDDEN, "step(4, 0, 0)", HIDDEN);
+        C.due(plans.then("tape n;"), "text(2)", NONE, "fault(2)", 2);
         C.due(plans.then("tape y:1"), "text(1)", 0);
+
+        // What was on the TAPE when it was refused leaves nothing behind in the TEXT that is taken then.
+        C.promise(5, "NONE: a FAULT, no such sort, there are four.");
+        C.due(Run.of("hall pd9;r", "tape y:9;y", "fault(1)", "text(1)", "law y:2"), "melt(0, 0, 0)", 2);
+        C.due(Run.of("hall pd9;r", "tape y:1=2?3;y:5;y", "text(1)", "law y:1=2?3"), "melt(0, 0, 0)", 0);
+        C.due(Run.of("hall pd9;r", "tape n;n;g011;", "text(2)", "plan r00"), "step(0, 0, 0)", 0, "step(0, 1, 0)", HIDDEN);
+        C.due(Run.of("tape sw2;p;pd9t7;rb9;r;", "text(0)", "fault(0)", "hall p;r"), "count(0)", 1, "count(1)", 1, "hall(0)", 5,
+                "page(0, 1)", 5, "reader(0, 1)", 3);
     }
 }
