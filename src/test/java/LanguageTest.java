@@ -1,4 +1,5 @@
 import java.io.IOException;
+import java.lang.management.ManagementFactory;
 import java.lang.reflect.Constructor;
 import java.lang.reflect.Field;
 import java.lang.reflect.Method;
@@ -29,6 +30,7 @@ final class LanguageTest {
         face();
         inside();
         source();
+        room();
         C.end();
     }
 
@@ -96,6 +98,8 @@ final class LanguageTest {
             for (String word : banned) {
                 C.due("line " + (i + 1) + " has " + word, line.contains(word), false);
             }
+            boolean thrown = line.matches(" *throw new NoSuchElementException\\(\"[A-Za-z, ]+\"\\);");
+            C.due("rule 6, line " + (i + 1), thrown, line.contains("throw "));
             if (line.startsWith("import ")) {
                 boolean may = line.equals("import java.util.Arrays;")
                         || line.equals("import java.util.NoSuchElementException;");
@@ -110,6 +114,68 @@ final class LanguageTest {
                 C.due("length of " + start.trim(), i - from <= 60, true);
                 start = null;
             }
+        }
+    }
+
+    /** Rule 12: an object and its 512 calls, the dearest among them, live in little room; the calls make nothing. */
+    private static void room() {
+        dearCalls(new SnowBooks());
+        long ahead = bytesMade();
+        SnowBooks x = new SnowBooks();
+        long made = bytesMade() - ahead;
+        dearCalls(x);
+        long behind = bytesMade();
+        C.due("bytes of a new object: " + made, made < 100000, true);
+        C.due("bytes made by calls: " + (behind - ahead - made), behind - ahead - made < 10000, true);
+    }
+
+    private static long bytesMade() {
+        return ((com.sun.management.ThreadMXBean) ManagementFactory.getThreadMXBean()).getCurrentThreadAllocatedBytes();
+    }
+
+    private static final int[] HALL = numbers("sf0a99;p;pc1;pc2;pc3;pc4;pb1;p;p;p;p;p;p;r;r;r;r;r;r");
+    private static final int[] LAW = numbers("y:[[b+c]*d]/2=7&!(s=1|n=2)?t;y:1");
+    private static final int[] PLAN = numbers("n;n;n;n;n;n;n;n;n;n;n;n;n;n;n;r00");
+
+    private static int[] numbers(String text) {
+        int[] numbers = new int[(text.length() + 19) / 20 * 5];
+        for (int i = 0; i < text.length(); i++) {
+            numbers[i / 4] |= text.charAt(i) << 24 - i % 4 * 8;
+        }
+        return numbers;
+    }
+
+    private static int text(SnowBooks x, int sort, int[] n) {
+        for (int i = 0; i < n.length; i += 5) {
+            x.feed(n[i], n[i + 1], n[i + 2], n[i + 3], n[i + 4]);
+        }
+        return x.fault(sort) == SnowBooks.NONE ? x.text(sort) : -3;
+    }
+
+    private static void dearCalls(SnowBooks x) {
+        int taken = text(x, 0, HALL) - 12 + text(x, 1, LAW) + text(x, 2, PLAN);
+        C.due("texts taken", taken, 0);
+        x.law(0);
+        for (int i = 0; i < 12; i++) {
+            x.centuries(60, i);
+            x.image();
+            x.recut(0, i);
+            x.perform(0);
+            for (int book = 0; book < 5; book++) {
+                x.order(i % 6, book, 1);
+                x.share(book, 1);
+                x.who(book);
+            }
+            x.run(0, 1);
+            x.left(99);
+            x.last(i);
+            x.placeFor(i, 0);
+            x.likely(i, 0);
+            x.breathed(i, i, 9, 5);
+            x.exam(12, i, 50);
+            x.quiet(i % 6, 0);
+            x.undo();
+            x.back();
         }
     }
 }
