@@ -1236,7 +1236,8 @@ public final class SnowBooks {
                     worth = a | b;
                     break;
             }
-            return (int) Math.max(-BOUND, Math.min(BOUND, worth));
+            // No Math here: it would be the ninth call within one another.
+            return worth > BOUND ? BOUND : worth < -BOUND ? -BOUND : (int) worth;
         }
     }
 
@@ -1702,7 +1703,10 @@ public final class SnowBooks {
         final Winter winter;
         /** The Snow behind each READ of the order that is tried. */
         final Snow[] days = new Snow[MAX_ORDER + 1];
+        /** The least LOSS together by the set of READERS who get a PAGE; NO_WAY: they can't all. */
         final int[] leastLoss = new int[SETS];
+        /** LOSS of the PAGE that is shared out, by the READER who gets it. */
+        final int[] lossBy = new int[MAX_READERS];
         final long[] parts = new long[MAX_QUESTIONS + 2];
         int bestRow;
         int bestLost;
@@ -1761,7 +1765,7 @@ public final class SnowBooks {
             int shared = winter.pagesThere(now) & hall.pagesOf(book);
             for (int p = 0; p < hall.pages; p++) {
                 if ((shared >> p & 1) == 1) {
-                    shareOut(now, p);
+                    shareOut(now, hall.pageCell(p));
                 }
             }
             int best = 0;
@@ -1775,13 +1779,15 @@ public final class SnowBooks {
         }
 
         /** Sets falling: those without the READER still stand as they were ahead of this PAGE. */
-        private void shareOut(Snow now, int page) {
+        private void shareOut(Snow now, int cell) {
+            for (int r = 0; r < lossBy.length; r++) {
+                lossBy[r] = winter.reaches(now, r, cell) ? winter.lossIn(now, r, cell) : NO_WAY;
+            }
             for (int set = leastLoss.length - 1; set > 0; set--) {
-                for (int r = 0; r < hall.readers; r++) {
+                for (int r = 0; r < lossBy.length; r++) {
                     int without = set & ~(1 << r);
-                    if (without != set && leastLoss[without] < NO_WAY && winter.reaches(now, r, hall.pageCell(page))) {
-                        int together = leastLoss[without] + winter.lossIn(now, r, hall.pageCell(page));
-                        leastLoss[set] = Math.min(leastLoss[set], together);
+                    if (without != set) {
+                        leastLoss[set] = Math.min(leastLoss[set], leastLoss[without] + lossBy[r]);
                     }
                 }
             }
